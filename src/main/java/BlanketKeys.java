@@ -557,10 +557,10 @@ public final class BlanketKeys {
 
         /** The typist whose shift this key is. */
         int shiftOwner(int key) {
-            if (shiftOf(0) == key) {
+            if (Cells.at(shifts, 0) == key) {
                 return 0;
             }
-            return shiftOf(1) == key ? 1 : ABSENT;
+            return Cells.at(shifts, 1) == key ? 1 : ABSENT;
         }
 
         void giveShift(int typist, int key) {
@@ -763,11 +763,10 @@ public final class BlanketKeys {
             Cells.put(fates, slot, fate);
             Cells.put(holders, slot, board.trueHolderOf(key));
             Cells.put(notedShifts, slot, board.notedFor(key));
-            Cells.put(origins, slot, total);
             total++;
         }
 
-        /** Adds the latest stroke of other rows, with the number that it has there as its origin. */
+        /** Adds the latest stroke of other rows; its number there is its origin, by which settling finds it again. */
         void addLatestOf(Strokes other) {
             int slot = slot(total);
             int latest = other.total - 1;

@@ -205,6 +205,43 @@ public final class HandsTest {
         Due.is("9: and sure", x.key(1, 3), 0);
     }
 
+    /** A key that is seen still, but up, is no corner of others beside it. */
+    private static void threeKeysAreNoCorners() {
+        BlanketKeys x = new BlanketKeys();
+        x.build(2, 3);
+        x.press(0, 0);
+        x.press(0, 1);
+        x.tick(1);
+        x.release(0, 1);
+        x.press(1, 4);
+        x.press(1, 5);
+        x.tick(1);
+        Due.is("9: seen", x.count(4), 4);
+        Due.is("9: but no four corners", x.count(5), 0);
+    }
+
+    /** What was noted as a key became seen is not noted anew when another key of its row does. */
+    private static void notedOnce() {
+        BlanketKeys x = new BlanketKeys();
+        x.build(2, 3);
+        x.setShift(1, 5);
+        x.press(0, 0);
+        x.press(1, 5);
+        x.tick(2);
+        x.release(0, 0);
+        x.press(1, 0);
+        x.press(0, 1);
+        x.tick(2);
+        x.release(1, 0);
+        x.release(0, 1);
+        x.tick(2);
+        Due.is("9: the later key", x.stroke(0, 0), 1);
+        Due.is("9: with the shift", x.stroke(0, 5), 2);
+        Due.is("9: the earlier key", x.stroke(1, 0), 0);
+        Due.is("9: without", x.stroke(1, 5), 0);
+        Due.is("9: the first who held it", x.stroke(1, 4), 0);
+    }
+
     private static void orderOfEnds() {
         BlanketKeys x = new BlanketKeys();
         x.press(0, 5);
@@ -354,6 +391,20 @@ public final class HandsTest {
         Due.is("9: mean gap at least 0.5", x.style(0, 1), 0.5f);
         Due.is("9: in hundredths", x.hundredths(0, 1), 50);
         Due.is("9: mean dwell", x.style(0, 0), 4.0f);
+        // 6.0f + (0 - 6.0f) * 0.9375f would be 0.375f
+        BlanketKeys y = new BlanketKeys();
+        y.build(4, 3);
+        y.set(0, WIDE);
+        y.set(2, Float.floatToRawIntBits(0.9375f));
+        y.press(0, 0);
+        y.press(0, 1);
+        y.tick(4);
+        y.release(0, 0);
+        y.release(0, 1);
+        y.tick(1);
+        y.settle(0, 0);
+        y.settle(1, 0);
+        Due.is("10: mean gap at least 0.5", y.style(0, 1), 0.5f);
     }
 
     /** A key that was seen earlier than the last one, and is credited later, has a gap too. */
@@ -629,6 +680,8 @@ public final class HandsTest {
         noDoubtWithoutCorners();
         doubtsOfOneTick();
         endsComeBeforeDoubts();
+        threeKeysAreNoCorners();
+        notedOnce();
         orderOfEnds();
         trueHolders();
         wrongCredit();

@@ -85,8 +85,11 @@ public final class HistoryTest {
         y.press(0, 1);
         y.press(0, 2);
         y.tick(2);
-        y.tick(2);
-        Due.is("14: trust as it was", y.verdict(2), 0);
+        y.tick(4);
+        Due.is("14: dwell 5", y.verdict(2), 0);
+        // 6 is 0.5 off 4, and 0.25 off 8; 4 at the end of the trust, 12 off 8
+        y.tick(6);
+        Due.is("14: dwell 11 is 0.375 off 8, within the trust as it was", y.verdict(2), 1);
     }
 
     private static void tickUndone() {
@@ -152,6 +155,144 @@ public final class HistoryTest {
         Due.is("14: no dispute", x.dispute(0, 0), BlanketKeys.UNKNOWN);
     }
 
+    /** What had been written over in the same places comes back: keys that are seen, strokes, signs, styles. */
+    private static void writtenOver() {
+        BlanketKeys x = new BlanketKeys();
+        x.build(2, 3);
+        x.set(0, Float.floatToRawIntBits(2.0f));
+        x.setShift(1, 3);
+        x.setSign(1, 'a');
+        x.press(1, 3);
+        x.tick(2);
+        x.press(0, 1);
+        x.tick(2);
+        x.keep();
+        x.release(0, 1);
+        x.tick(2);
+        Due.is("16: dispute of 1", x.dispute(0, 0), 1);
+        x.release(1, 3);
+        x.tick(2);
+        x.setSign(2, 'b');
+        x.press(1, 1);
+        x.tick(4);
+        x.restore();
+        Due.is("16: since", x.key(1, 2), 2);
+        x.release(0, 1);
+        x.tick(2);
+        Due.is("16: noted", x.stroke(0, 5), 2);
+        Due.is("16: true holder", x.stroke(0, 4), 0);
+        Due.is("16: dwell", x.stroke(0, 2), 2);
+        x.keep();
+        x.restore();
+        x.restore();
+        x.settle(0, 2);
+        x.release(1, 3);
+        x.tick(1);
+        x.restore();
+        int[] told = {1, 2, 2, BlanketKeys.NONE, 0};
+        for (int what = 0; what < told.length; what++) {
+            Due.is("16: dispute(0, " + what + ")", x.dispute(0, what), told[what]);
+        }
+        x.settle(0, 1);
+        Due.is("16: in the stroke", x.stroke(0, 3), 1);
+        Due.is("16: capital, as noted", x.typed(1, 0), 'A');
+        x.keep();
+        x.setSign(1, 'z');
+        x.press(0, 1);
+        x.tick(2);
+        x.release(0, 1);
+        x.tick(2);
+        x.settle(1, 1);
+        Due.is("16: another sign", x.typed(1, 0), 'Z');
+        Due.is("16: another gap", x.style(1, 1), 10.0f + (4.0f - 10.0f) * 0.25f);
+        x.restore();
+        Due.is("16: signs", x.typed(1, 0), 'A');
+        Due.is("16: mean gap", x.style(1, 1), 10.0f);
+        Due.is("16: disputes", x.dispute(1, 0), BlanketKeys.UNKNOWN);
+    }
+
+    /** The rows of strokes come back when later strokes stood in the same places. */
+    private static void manyStrokes() {
+        BlanketKeys x = new BlanketKeys();
+        x.build(2, 3);
+        x.set(0, Float.floatToRawIntBits(2.0f));
+        x.setShift(0, 3);
+        x.setShift(1, 4);
+        x.press(0, 0);
+        x.tick(2);
+        x.release(0, 0);
+        x.tick(2);
+        x.keep();
+        x.restore();
+        x.undo();
+        x.undo();
+        Due.is("14: still seen", x.key(0, 1), 1);
+        x.press(1, 4);
+        x.tick(4);
+        x.press(1, 1);
+        x.tick(2);
+        x.release(1, 1);
+        x.tick(2);
+        Due.is("14: another stroke", x.stroke(0, 0), 1);
+        x.restore();
+        int[] told = {0, 0, 2, 3, 0, 0};
+        for (int what = 0; what < told.length; what++) {
+            Due.is("16: stroke(0, " + what + ")", x.stroke(0, what), told[what]);
+        }
+        Due.is("16: no other", x.stroke(1, 0), BlanketKeys.NONE);
+        Due.is("16: settle", x.settle(0, 1), 0);
+        Due.is("16: told in its stroke", x.stroke(0, 3), 1);
+    }
+
+    /** A dispute that is not of the first stroke finds its stroke again after undo. */
+    private static void disputeFindsItsStroke() {
+        BlanketKeys x = new BlanketKeys();
+        x.build(2, 3);
+        x.press(0, 0);
+        x.tick(4);
+        x.release(0, 0);
+        x.tick(2);
+        x.set(0, Float.floatToRawIntBits(2.0f));
+        x.press(0, 1);
+        x.tick(4);
+        x.release(0, 1);
+        x.tick(2);
+        x.settle(0, 2);
+        Due.is("10: the second stroke", x.stroke(0, 3), 2);
+        Due.is("10: not the first", x.stroke(1, 3), 0);
+        x.undo();
+        x.keep();
+        x.restore();
+        x.settle(0, 1);
+        Due.is("14: the second stroke", x.stroke(0, 3), 1);
+        Due.is("14: not the first", x.stroke(1, 3), 0);
+    }
+
+    private static void write(BlanketKeys x, String text) {
+        x.clearText();
+        for (int i = 0; i < text.length(); i++) {
+            x.type(text.charAt(i));
+        }
+    }
+
+    /** The same after another dispute, of another stroke, had its number. */
+    private static void disputeOfAnotherPast() {
+        BlanketKeys x = new BlanketKeys();
+        x.build(2, 3);
+        x.set(0, Float.floatToRawIntBits(2.0f));
+        x.setShift(0, 3);
+        write(x, "1d3;t2;1u3;t2;0d0;t2;0u0;t2");
+        Due.is("13: a shift and a dispute", x.perform(), 2);
+        x.keep();
+        x.undo();
+        write(x, "0d0;t2;0u0;t2");
+        Due.is("13: a dispute alone", x.perform(), 1);
+        x.restore();
+        x.settle(0, 1);
+        Due.is("16: the second stroke", x.stroke(0, 3), 1);
+        Due.is("16: not the shift", x.stroke(1, 3), 0);
+    }
+
     private static void snapshot() {
         BlanketKeys x = new BlanketKeys();
         Due.is("16: no snapshot", x.restore(), BlanketKeys.NONE);
@@ -207,6 +348,10 @@ public final class HistoryTest {
         tickUndone();
         doubtsUndone();
         disputesUndone();
+        writtenOver();
+        manyStrokes();
+        disputeFindsItsStroke();
+        disputeOfAnotherPast();
         snapshot();
         snapshotOfHands();
         Due.tell();

@@ -298,6 +298,15 @@ public final class ToldTest {
         y.release(0, 40);
         y.press(0, 0);
         Due.is("26: it makes 20", y.ghostsBy(0), 120);
+        BlanketKeys z = new BlanketKeys();
+        z.build(2, 2);
+        z.press(0, 2);
+        z.press(0, 3);
+        z.press(1, 0);
+        Due.is("26: a ghost in the row 0", z.ghostsBy(0), 101);
+        Due.is("26: itself is not counted", z.ghostsBy(1), 100);
+        z.release(1, 0);
+        Due.is("26: it would make one there", z.ghostsBy(1), 99);
     }
 
     private static void count() {
@@ -325,6 +334,15 @@ public final class ToldTest {
         for (int what = 0; what < later.length; what++) {
             Due.is("27: later count(" + what + ")", x.count(what), later[what]);
         }
+        x.settle(0, 1);
+        Due.is("27: credited to both", x.count(7), 2);
+        x.press(1, 0);
+        x.tick(9);
+        x.release(1, 0);
+        x.tick(2);
+        Due.is("27: three credited", x.count(7), 3);
+        Due.is("27: rightly to both", x.count(11), 2);
+        Due.is("27: rightly to 1", x.typist(1, 5), 1);
         Due.is("27: count(-1)", x.count(-1), BlanketKeys.BAD_VALUE);
         Due.is("27: count(16)", x.count(16), BlanketKeys.BAD_VALUE);
     }
