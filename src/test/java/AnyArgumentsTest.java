@@ -4,64 +4,94 @@ public final class AnyArgumentsTest {
         5, 6, 7, 8, 9, 15, 16, 17, 19, 20, 21, 23, 24, 47, 48, 59, 60, 98, 99, 100, 9999, 10000, 65536, 1 << 30,
         Integer.MAX_VALUE - 1, Integer.MAX_VALUE};
 
+    private static Keys.Way way;
+    private static Keys program;
+    private static Keys model;
+    private static int calls;
+    private static String arguments;
+
     private AnyArgumentsTest() {
     }
 
-    private static void one(BlanketKeys x, PlainModel m, int a) {
-        Due.is("verdict(" + a + ")", x.verdict(a), m.verdict(a));
-        Due.is("ghostsBy(" + a + ")", x.ghostsBy(a), m.ghostsBy(a));
-        Due.is("count(" + a + ")", x.count(a), m.count(a));
-        Due.is("borrow(" + a + ", true)", x.borrow(a, true), m.borrow(a, true));
-        Due.is("tick(" + a + ")", x.tick(a), m.tick(a));
-        Due.is("type(" + a + ")", x.type((char) a), m.type((char) a));
-        Due.is("perform()", x.perform(), m.perform());
-        Due.is("setSign(" + a + ", e)", x.setSign(a, 'e'), m.setSign(a, 'e'));
-        Due.is("setSign(5, " + a + ")", x.setSign(5, (char) a), m.setSign(5, (char) a));
+    private static void begin() {
+        program = new RealKeys();
+        model = new PlainModel();
+        way.on(program);
+        way.on(model);
+        calls = 0;
     }
 
-    private static void two(BlanketKeys x, PlainModel m, int a, int b) {
-        String at = "(" + a + ", " + b + ")";
-        Due.is("key" + at, x.key(a, b), m.key(a, b));
-        Due.is("typist" + at, x.typist(a, b), m.typist(a, b));
-        Due.is("style" + at, x.style(a, b), m.style(a, b));
-        Due.is("hundredths" + at, x.hundredths(a, b), m.hundredths(a, b));
-        Due.is("typed" + at, x.typed(a, b), m.typed(a, b));
-        Due.is("stroke" + at, x.stroke(a, b), m.stroke(a, b));
-        Due.is("dispute" + at, x.dispute(a, b), m.dispute(a, b));
-        for (int dwell : NUMBERS) {
-            Due.is("distance" + at, x.distance(a, b, dwell), m.distance(a, b, dwell));
+    private static void same(String call, Keys.Call asked) {
+        if (calls == 400) {
+            begin();
         }
-        Due.is("set" + at, x.set(a, b), m.set(a, b));
-        Due.is("settle" + at, x.settle(a, b), m.settle(a, b));
-        Due.is("setShift" + at, x.setShift(a, b), m.setShift(a, b));
-        Due.is("release" + at, x.release(a, b), m.release(a, b));
-        Due.is("press" + at, x.press(a, b), m.press(a, b));
-        Due.is("build" + at, x.build(a, b), m.build(a, b));
+        calls++;
+        Due.is(arguments, call, asked.on(program), asked.on(model));
     }
 
-    private static void all(BlanketKeys x, PlainModel m) {
+    private static void one(int a) {
+        same("verdict", k -> k.verdict(a));
+        same("ghostsBy", k -> k.ghostsBy(a));
+        same("count", k -> k.count(a));
+        same("borrow", k -> k.borrow(a, true));
+        same("tick", k -> k.tick(a));
+        same("type", k -> k.type((char) a));
+        same("perform", Keys::perform);
+        same("setSign", k -> k.setSign(a, 'e'));
+        same("setSign of 5", k -> k.setSign(5, (char) a));
+    }
+
+    private static void two(int a, int b) {
+        same("key", k -> k.key(a, b));
+        same("typist", k -> k.typist(a, b));
+        same("style", k -> Whole.bits(k.style(a, b)));
+        same("hundredths", k -> k.hundredths(a, b));
+        same("typed", k -> k.typed(a, b));
+        same("stroke", k -> k.stroke(a, b));
+        same("dispute", k -> k.dispute(a, b));
+        for (int dwell : NUMBERS) {
+            same("distance", k -> Whole.bits(k.distance(a, b, dwell)));
+        }
+        same("set", k -> k.set(a, b));
+        same("settle", k -> k.settle(a, b));
+        same("setShift", k -> k.setShift(a, b));
+        same("release", k -> k.release(a, b));
+        same("press", k -> k.press(a, b));
+        same("build", k -> k.build(a, b));
+    }
+
+    private static void all(Keys.Way from) {
+        way = from;
+        begin();
         for (int a : NUMBERS) {
-            one(x, m, a);
+            arguments = "with " + a + ": ";
+            one(a);
             for (int b : NUMBERS) {
-                two(x, m, a, b);
+                arguments = "with " + a + " and " + b + ": ";
+                two(a, b);
             }
         }
+    }
+
+    private static void halfway(Keys k) {
+        k.set(0, Float.floatToRawIntBits(2.0f));
+        k.setSign(5, 'e');
+        k.setShift(1, 7);
+        for (int i = 0; i < 3; i++) {
+            k.press(i % 2, 5);
+            k.press(1, 7);
+            k.tick(4);
+            k.release(i % 2, 5);
+            k.tick(4 + i);
+        }
+        k.settle(0, 0);
+        k.keep();
+        k.press(0, 0);
     }
 
     public static void main(String[] args) {
-        BlanketKeys x = new BlanketKeys();
-        PlainModel m = new PlainModel();
-        all(x, m);
-        int wide = Float.floatToRawIntBits(2.0f);
-        x.set(0, wide);
-        m.set(0, wide);
-        for (int round = 0; round < 3; round++) {
-            all(x, m);
-            for (int key = 0; key < 24; key++) {
-                x.release(round % 2, key);
-                m.release(round % 2, key);
-            }
-        }
+        all(k -> { });
+        all(AnyArgumentsTest::halfway);
         Due.tell();
     }
 }

@@ -10,7 +10,7 @@ import java.util.regex.Pattern;
  * The document once more, written apart from the program and as naively as it can be said: lists that forget
  * nothing, a search over rows and columns, corners looked for among all keys.
  */
-final class PlainModel {
+final class PlainModel implements Keys {
     static final int UNKNOWN = -1;
     static final int BAD_VALUE = -2;
     static final int FULL = -3;
@@ -136,7 +136,7 @@ final class PlainModel {
         return typist == 0 || typist == 1;
     }
 
-    int build(int rows, int columns) {
+    public int build(int rows, int columns) {
         if (rows < 2 || rows > 6 || columns < 2 || columns > 8) {
             return BAD_VALUE;
         }
@@ -153,7 +153,7 @@ final class PlainModel {
         return rows * columns;
     }
 
-    int setSign(int key, char sign) {
+    public int setSign(int key, char sign) {
         if (!isKey(key)) {
             return UNKNOWN;
         }
@@ -180,7 +180,7 @@ final class PlainModel {
         return NONE;
     }
 
-    int setShift(int typist, int key) {
+    public int setShift(int typist, int key) {
         if (!isTypist(typist) || !isKey(key)) {
             return UNKNOWN;
         }
@@ -201,7 +201,7 @@ final class PlainModel {
         return was == NONE ? key : was;
     }
 
-    int borrow(int typist, boolean is) {
+    public int borrow(int typist, boolean is) {
         if (!isTypist(typist)) {
             return UNKNOWN;
         }
@@ -213,7 +213,7 @@ final class PlainModel {
         return (a.borrows[0] ? 1 : 0) + (a.borrows[1] ? 1 : 0);
     }
 
-    int set(int what, int bits) {
+    public int set(int what, int bits) {
         if (what < 0 || what > 2) {
             return BAD_VALUE;
         }
@@ -267,7 +267,7 @@ final class PlainModel {
         return held(typist);
     }
 
-    int press(int typist, int key) {
+    public int press(int typist, int key) {
         All before = a.copy();
         int answer = tryPress(typist, key);
         if (answer >= 0) {
@@ -276,7 +276,7 @@ final class PlainModel {
         return answer;
     }
 
-    int release(int typist, int key) {
+    public int release(int typist, int key) {
         All before = a.copy();
         int answer = tryRelease(typist, key);
         if (answer >= 0) {
@@ -285,7 +285,7 @@ final class PlainModel {
         return answer;
     }
 
-    int tick(int ticks) {
+    public int tick(int ticks) {
         if (ticks < 1 || ticks > 99) {
             return BAD_VALUE;
         }
@@ -471,7 +471,7 @@ final class PlainModel {
         return a.strokes.get(a.disputes.get(dispute));
     }
 
-    int settle(int dispute, int who) {
+    public int settle(int dispute, int who) {
         if (dispute < 0 || dispute >= a.disputes.size()) {
             return UNKNOWN;
         }
@@ -488,7 +488,7 @@ final class PlainModel {
         return s.key;
     }
 
-    int type(char character) {
+    public int type(char character) {
         if (text.length() == 60) {
             return FULL;
         }
@@ -496,7 +496,7 @@ final class PlainModel {
         return text.length();
     }
 
-    int clearText() {
+    public int clearText() {
         int was = text.length();
         text = "";
         return was;
@@ -511,7 +511,7 @@ final class PlainModel {
         return WHOLE.matcher(text).matches() ? -1 : text.length();
     }
 
-    int perform() {
+    public int perform() {
         int fault = fault();
         if (fault >= 0) {
             return -100 - fault;
@@ -538,7 +538,7 @@ final class PlainModel {
         return ended;
     }
 
-    int undo() {
+    public int undo() {
         if (history.isEmpty()) {
             return NONE;
         }
@@ -546,12 +546,12 @@ final class PlainModel {
         return history.size();
     }
 
-    int keep() {
+    public int keep() {
         snapshot = a.copy();
         return a.tick;
     }
 
-    int restore() {
+    public int restore() {
         if (snapshot == null) {
             return NONE;
         }
@@ -560,7 +560,7 @@ final class PlainModel {
         return a.tick;
     }
 
-    int key(int key, int what) {
+    public int key(int key, int what) {
         if (!isKey(key)) {
             return UNKNOWN;
         }
@@ -588,7 +588,7 @@ final class PlainModel {
         return n;
     }
 
-    int typist(int typist, int what) {
+    public int typist(int typist, int what) {
         if (!isTypist(typist)) {
             return UNKNOWN;
         }
@@ -605,14 +605,14 @@ final class PlainModel {
         }
     }
 
-    float style(int typist, int what) {
+    public float style(int typist, int what) {
         if (!isTypist(typist) || what < 0 || what > 1) {
             return Float.NaN;
         }
         return what == 0 ? a.dwell[typist] : a.gap[typist];
     }
 
-    int hundredths(int typist, int what) {
+    public int hundredths(int typist, int what) {
         if (!isTypist(typist)) {
             return UNKNOWN;
         }
@@ -623,7 +623,7 @@ final class PlainModel {
         return (int) hundred;
     }
 
-    int typed(int typist, int back) {
+    public int typed(int typist, int back) {
         if (!isTypist(typist)) {
             return UNKNOWN;
         }
@@ -634,7 +634,7 @@ final class PlainModel {
         return back >= 24 || back >= list.size() ? NONE : list.get(list.size() - 1 - back);
     }
 
-    int stroke(int back, int what) {
+    public int stroke(int back, int what) {
         if (back < 0 || what < 0 || what > 5) {
             return BAD_VALUE;
         }
@@ -647,7 +647,7 @@ final class PlainModel {
         return answers[what];
     }
 
-    int dispute(int dispute, int what) {
+    public int dispute(int dispute, int what) {
         if (dispute < 0 || dispute >= a.disputes.size()) {
             return UNKNOWN;
         }
@@ -659,21 +659,21 @@ final class PlainModel {
         return answers[what];
     }
 
-    float distance(int typist, int since, int dwell) {
+    public float distance(int typist, int since, int dwell) {
         if (!isTypist(typist) || since < 0 || dwell < 0 || dwell > 9999) {
             return Float.NaN;
         }
         return dist(typist, since, dwell);
     }
 
-    int verdict(int key) {
+    public int verdict(int key) {
         if (!isKey(key)) {
             return UNKNOWN;
         }
         return a.keys.get(key).seen ? becomes(key) : NONE;
     }
 
-    int ghostsBy(int key) {
+    public int ghostsBy(int key) {
         if (!isKey(key)) {
             return UNKNOWN;
         }
@@ -698,7 +698,7 @@ final class PlainModel {
         return result;
     }
 
-    int count(int what) {
+    public int count(int what) {
         int down = 0;
         int seen = 0;
         int doubtful = 0;
