@@ -47,14 +47,15 @@ public final class CreditEdgesTest {
         };
     }
 
-    /** Two strokes at an uneven rate, by which the typist 0 has an uneven style. */
+    /** Two strokes of each at an uneven rate, by which both have an uneven style. */
     private static void uneven(Keys k) {
         k.build(3, 2);
         k.set(2, Edge.bits(0.3f));
-        Edge.strike(k, 0, 0, 3);
-        k.tick(2);
-        Edge.strike(k, 0, 0, 3);
-        k.tick(2);
+        int[] dwells = {9, 9, 3, 3};
+        for (int i = 0; i < 4; i++) {
+            Edge.strike(k, i % 2, 0, dwells[i]);
+            k.tick(5);
+        }
     }
 
     /** "Each operation with them is done in floats, rounded by itself": distances. */
@@ -278,46 +279,97 @@ public final class CreditEdgesTest {
         Edge.tells("9: ghosts without a true holder", doubtful(half - 1, 2), k -> k.count(12), 1);
     }
 
-    /** Margin and trust to the bit, wherever uneven styles bring the two distances. */
-    private static void boundsToTheBit() {
-        for (int dwell = 1; dwell <= 30; dwell++) {
-            int ticks = dwell;
+    /** "The margin .. (at first 0.125f)": two distances that are as far apart, and a float nearer. */
+    private static void marginAtFirst() {
+        // learned from 3 ticks, the mean dwell is 4.0f still, or the float below it
+        float[] rates = {0.0f, 1.0f / (1 << 22)};
+        for (float rate : rates) {
             Keys.Way way = k -> {
-                uneven(k);
+                k.build(3, 3);
+                k.set(2, Edge.bits(rate));
+                k.press(0, 2);
+                k.tick(3);
+                k.release(0, 2);
+                k.tick(3);
                 k.press(0, 0);
-                k.tick(ticks);
+                k.tick(5);
             };
-            Keys k = Edge.after(way);
+            Edge.tells("9: since the tick 6, so that the gap is 6", way, k -> k.key(0, 2), 6);
+            Edge.tells("25: 5 ticks at the rate " + rate, way, k -> k.verdict(0), rate == 0.0f ? 0 : 3);
+        }
+    }
+
+    /** "the trust .. (at first 0.5f)": a distance that is as great, and a float greater. */
+    private static void trustAtFirst() {
+        // learned from 5 ticks, the mean dwell is 4.0f still, or the float above it
+        float[] rates = {0.0f, 1.0f / (1 << 21)};
+        for (float rate : rates) {
+            Keys.Way way = k -> {
+                k.build(5, 3);
+                k.set(2, Edge.bits(rate));
+                k.press(0, 2);
+                k.tick(5);
+                k.release(0, 2);
+                k.press(0, 0);
+                k.press(0, 1);
+                k.tick(1);
+                k.press(0, 3);
+                k.tick(2);
+            };
+            Edge.tells("9: since the tick 6, so that the gap is 6", way, k -> k.key(3, 2), 6);
+            Edge.tells("9: doubtful", way, k -> k.key(3, 3), 1);
+            Edge.tells("25: 2 ticks at the rate " + rate, way, k -> k.verdict(3), rate == 0.0f ? 0 : 2);
+        }
+    }
+
+    /** The margin to the bit, wherever uneven styles bring the two distances. */
+    private static void marginsToTheBit() {
+        Edge.tells("9: two strokes went to 0", CreditEdgesTest::uneven, k -> k.typist(0, 4), 2);
+        Edge.tells("9: two strokes went to 1", CreditEdgesTest::uneven, k -> k.typist(1, 4), 2);
+        int otherInDoubles = 0;
+        for (int i = 0; i < 600; i++) {
+            int idle = 3 + i / 30 * 3;
+            int dwell = 1 + i % 30;
+            Keys k = Edge.after(x -> {
+                uneven(x);
+                x.tick(idle);
+                x.press(0, 0);
+                x.tick(dwell);
+            });
             int since = k.key(0, 2);
-            float first = k.distance(0, since, ticks);
-            float second = k.distance(1, since, ticks);
+            float first = k.distance(0, since, dwell);
+            float second = k.distance(1, since, dwell);
             float apart = first - second;
             float margin = apart < 0 ? -apart : apart;
             int nearest = first <= second ? 0 : 1;
             if (margin < 2.0f) {
-                Due.is("25: the margin itself, dwell " + dwell, setAndVerdict(k, 0, Edge.bits(margin)), nearest);
-                Due.is("25: a bit more, dwell " + dwell, setAndVerdict(k, 0, Edge.bits(margin) + 1), 3);
+                Due.is("25: the margin itself, " + i, setAndVerdict(k, 0, Edge.bits(margin)), nearest);
+                Due.is("25: a bit more, " + i, setAndVerdict(k, 0, Edge.bits(margin) + 1), 3);
+                otherInDoubles += Math.abs((double) first - second) < margin ? 1 : 0;
             }
         }
-        for (int dwell = 1; dwell <= 30; dwell++) {
-            int ticks = dwell;
+        Due.is("25: doubles would show", otherInDoubles > 0 ? 1 : 0, 1);
+    }
+
+    /** The trust to the bit, wherever uneven styles bring the nearest distance. */
+    private static void trustsToTheBit() {
+        for (int i = 1; i <= 30; i++) {
+            int dwell = i;
             Keys k = Edge.after(x -> {
                 uneven(x);
                 x.press(0, 0);
                 x.press(0, 1);
                 x.press(0, 2);
-                x.tick(1 + ticks);
+                x.tick(1 + dwell);
             });
             int since = k.key(2, 2);
-            float first = k.distance(0, since, ticks);
-            float second = k.distance(1, since, ticks);
+            float first = k.distance(0, since, dwell);
+            float second = k.distance(1, since, dwell);
             int nearest = first <= second ? 0 : 1;
             float least = nearest == 0 ? first : second;
             Due.is("17: doubtful", k.key(2, 3), 1);
-            if (least > 0.0f && least <= 4.0f) {
-                Due.is("25: the trust itself, dwell " + dwell, setAndVerdict(k, 1, Edge.bits(least)), nearest);
-                Due.is("25: a bit less, dwell " + dwell, setAndVerdict(k, 1, Edge.bits(least) - 1), 2);
-            }
+            Due.is("25: the trust itself, dwell " + dwell, setAndVerdict(k, 1, Edge.bits(least)), nearest);
+            Due.is("25: a bit less, dwell " + dwell, setAndVerdict(k, 1, Edge.bits(least) - 1), 2);
         }
     }
 
@@ -484,6 +536,31 @@ public final class CreditEdgesTest {
         }
     }
 
+    /** A stroke that is not known any more is settled too, and no stroke that is known becomes what it becomes. */
+    private static void settledWhenForgotten() {
+        int[] since = {15, 16, 19, 20, 21, 40};
+        for (int strokes : since) {
+            Keys.Way way = k -> {
+                disputing(k);
+                Edge.strikeOfTwoRows(k, 0, 0, 2);
+                k.set(0, ZERO);
+                for (int i = 0; i < strokes; i++) {
+                    Edge.strikeOfTwoRows(k, 0, 1, 4);
+                }
+            };
+            Edge.tells("22: all others went to 0", way, k -> k.typist(0, 4), strokes);
+            for (int i = 0; i <= 2; i++) {
+                int who = i;
+                Keys k = Edge.after(Whole.then(way, x -> x.settle(0, who)));
+                Due.is("23: for whom", k.dispute(0, 3), who);
+                for (int back = 0; back < 16; back++) {
+                    Due.is("22: " + strokes + " strokes later, back " + back, k.stroke(back, 3), back == strokes ? who : 0);
+                }
+                Due.is("22: the 17th", k.stroke(16, 3), Edge.NONE);
+            }
+        }
+    }
+
     /** "who learns from it (with the gap and the style of then)." */
     private static void settledLater() {
         Keys.Way way = k -> {
@@ -629,12 +706,16 @@ public final class CreditEdgesTest {
         margins();
         ties();
         trusts();
-        boundsToTheBit();
+        marginAtFirst();
+        trustAtFirst();
+        marginsToTheBit();
+        trustsToTheBit();
         shifts();
         shiftAtTheEnd();
         twentyDisputes();
         twentiethByNumber();
         settling();
+        settledWhenForgotten();
         settledLater();
         capitals();
         letters();

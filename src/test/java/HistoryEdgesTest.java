@@ -226,6 +226,14 @@ public final class HistoryEdgesTest {
     private static void snapshotIsWhole() {
         Keys.Way kept = Whole.then(HistoryEdgesTest::rich, Keys::keep);
         Keys.Way[] laters = {Edge.NEW, HistoryEdgesTest::others, k -> {
+            k.undo();
+            k.undo();
+            k.undo();
+            k.undo();
+            k.release(0, 0);
+            k.release(1, 6);
+            others(k);
+        }, k -> {
             others(k);
             k.restore();
             others(k);
@@ -239,6 +247,55 @@ public final class HistoryEdgesTest {
             Keys.Way restored = Whole.then(Whole.then(kept, laters[i]), Keys::restore);
             Due.same("16: all is as it was, way " + i, Whole.state(restored), Whole.state(HistoryEdgesTest::rich));
         }
+    }
+
+    /** The settings come back as what they do, not only as what is told of them. */
+    private static void settingsComeBack() {
+        int[] told = {Edge.bits(0.125f), Edge.bits(0.5f), Edge.bits(0.25f)};
+        // the margin 2 makes a dispute, the trust 0 a ghost, the rate 0 a style that stays
+        int[] others = {Edge.bits(2.0f), 0, 0};
+        for (int i = 0; i < 3; i++) {
+            int what = i;
+            Keys.Way changed = k -> k.set(what, others[what]);
+            Keys.Way undone = Whole.then(changed, Keys::undo);
+            Keys.Way restored = Whole.then(Keys::keep, Whole.then(changed, Keys::restore));
+            Keys.Way changedAgain = Whole.then(changed, Whole.then(Keys::keep, k -> {
+                k.set(what, told[what]);
+                k.restore();
+            }));
+            Keys.Call[] shown = {HistoryEdgesTest::singleStroke, HistoryEdgesTest::doubtfulStroke, HistoryEdgesTest::learned};
+            long first = shown[what].on(Edge.after(Edge.NEW));
+            long other = shown[what].on(Edge.after(changed));
+            Due.is("6: it shows, " + what, first != other ? 1 : 0, 1);
+            Edge.tells("14: undo of set " + what, undone, shown[what], first);
+            Edge.tells("16: restore of what was before set " + what, restored, shown[what], first);
+            Edge.tells("16: restore of what was set, " + what, changedAgain, shown[what], other);
+        }
+    }
+
+    private static long singleStroke(Keys k) {
+        k.press(0, 0);
+        k.tick(4);
+        k.release(0, 0);
+        k.tick(4);
+        return k.stroke(0, 3);
+    }
+
+    private static long doubtfulStroke(Keys k) {
+        k.build(2, 2);
+        k.press(0, 0);
+        k.press(0, 1);
+        k.press(0, 2);
+        k.tick(2);
+        k.release(0, 2);
+        k.tick(2);
+        return k.stroke(1, 0) == 2 ? k.stroke(1, 3) : -1;
+    }
+
+    private static long learned(Keys k) {
+        k.build(3, 2);
+        Edge.strike(k, 0, 0, 3);
+        return k.hundredths(0, 0);
     }
 
     /** Changes everything that a state has. */
@@ -306,6 +363,7 @@ public final class HistoryEdgesTest {
         roundAndRound();
         snapshot();
         snapshotIsWhole();
+        settingsComeBack();
         knownAgain();
         Due.tell();
     }

@@ -171,27 +171,53 @@ public final class SensingEdgesTest {
         }
     }
 
-    /** "A column is sensed then if there is a way": the longest one, over nine keys, and each of them missing. */
+    /** "A column is sensed then if there is a way": the longest one, through the rows in each order, and with each key missing. */
     private static void longestWay() {
-        // row 0 - column 4 - row 3 - column 2 - row 5 - column 0 - row 1 - column 3 - row 4 - column 1 - row 2
-        int[] way = {4, 28, 26, 42, 40, 8, 11, 35, 33, 17};
-        int lastColumn = 1;
+        int[] rows = {0, 1, 2, 3, 4, 5};
+        int orders = 0;
+        for (int code = 0; code < 120; code++) {
+            int[] order = rows.clone();
+            int rest = code;
+            for (int i = 1; i < 5; i++) {
+                int other = i + rest % (6 - i);
+                rest /= 6 - i;
+                int row = order[i];
+                order[i] = order[other];
+                order[other] = row;
+            }
+            longestWayThrough(order);
+            orders++;
+        }
+        Due.is("9: ways", orders, 120);
+    }
+
+    /** From the first row over a column to the next one, and so on; ten keys for eleven rows and columns. */
+    private static void longestWayThrough(int[] rows) {
+        int[] columns = {4, 7, 0, 5, 2};
+        int[] way = new int[10];
+        for (int i = 0; i < 10; i++) {
+            way[i] = rows[(i + 1) / 2] * 8 + columns[i / 2];
+        }
         Keys k = new RealKeys();
         k.build(6, 8);
         for (int i = 0; i < way.length; i++) {
             k.press(i / 5, way[i]);
         }
-        Due.is("9: over nine keys", k.key(lastColumn, 6), 1);
-        Due.is("9: back from the other end", k.key(2 * 8 + 4, 6), 1);
-        for (int column = 5; column < 8; column++) {
-            Due.is("9: a column without keys", k.key(column, 6), 0);
+        int farColumn = rows[0] * 8 + columns[4];
+        int backColumn = rows[5] * 8 + columns[0];
+        Due.is("9: over nine keys", k.key(farColumn, 6), 1);
+        Due.is("9: back from the other end", k.key(backColumn, 6), 1);
+        int[] apart = {1, 3, 6};
+        for (int column : apart) {
+            Due.is("9: a column without keys", k.key(rows[0] * 8 + column, 6), 0);
         }
         for (int i = 0; i < way.length; i++) {
             k.release(i / 5, way[i]);
-            Due.is("9: the way without its key " + i, k.key(lastColumn, 6), i < 9 ? 0 : 1);
+            Due.is("9: the way without its key " + i, k.key(farColumn, 6), i < 9 ? 0 : 1);
+            Due.is("9: the way back without its key " + i, k.key(backColumn, 6), i < 1 ? 1 : 0);
             k.press(i / 5, way[i]);
-            Due.is("9: the way again " + i, k.key(lastColumn, 6), 1);
         }
+        Due.is("9: the way again", k.key(farColumn, 6), 1);
         k.tick(6);
         Due.is("9: five keys of each row are seen", k.count(4), 30);
     }
@@ -467,6 +493,49 @@ public final class SensingEdgesTest {
         Edge.tells("9: both shifts of the same tick, before and behind it", same, k -> k.stroke(0, 5), 3);
     }
 
+    /** Step 3 before step 4: a shift that becomes doubtful in a tick is not on for those that become seen in it. */
+    private static void doubtsBeforeNotes() {
+        Keys.Way way = built(2, 4, k -> {
+            k.setShift(0, 4);
+            hold(0, 0, 1).on(k);
+            k.tick(1);
+            hold(1, 4, 6).on(k);
+            k.tick(1);
+        });
+        Edge.tells("9: the shift is doubtful", way, k -> k.key(4, 3), 1);
+        Edge.tells("9: the letter is not", way, k -> k.key(6, 1) * 10 + k.key(6, 3), 10);
+        Keys.Way ended = Whole.then(way, k -> {
+            k.release(1, 6);
+            k.tick(2);
+        });
+        Edge.tells("9: so the letter notes none", ended, k -> k.stroke(0, 0) * 10 + k.stroke(0, 5), 60);
+        Keys.Way shift = Whole.then(way, k -> {
+            k.release(1, 4);
+            k.tick(2);
+        });
+        Edge.tells("9: nor does the shift itself", shift, k -> k.stroke(1, 0) * 10 + k.stroke(1, 5), 40);
+    }
+
+    /** Step 4, "For each key that became seen in this tick": what was noted before of others in its row stays. */
+    private static void notedOnce() {
+        Keys.Way way = built(2, 4, k -> {
+            k.setShift(1, 3);
+            k.press(0, 0);
+            k.tick(2);
+            k.press(1, 3);
+            k.release(0, 0);
+            k.press(1, 0);
+            k.press(0, 1);
+            k.tick(2);
+            k.release(1, 0);
+            k.release(0, 1);
+            k.tick(2);
+        });
+        Edge.tells("9: the later key", way, k -> k.stroke(0, 0) * 10 + k.stroke(0, 5), 12);
+        Edge.tells("9: the earlier key notes no shift", way, k -> k.stroke(1, 0) * 10 + k.stroke(1, 5), 0);
+        Edge.tells("9: and has the first holder", way, k -> k.stroke(1, 4), 0);
+    }
+
     /** "The shift of a typist is on if its key is seen and not doubtful." */
     private static void doubtfulShift() {
         Keys.Way way = built(2, 3, k -> {
@@ -593,6 +662,8 @@ public final class SensingEdgesTest {
         twoRowsAndColumns();
         fourthCornerLate();
         shiftsThatAreOn();
+        doubtsBeforeNotes();
+        notedOnce();
         doubtfulShift();
         trueHolder();
         howManyEnd();

@@ -427,7 +427,59 @@ public final class ToldEdgesTest {
         Edge.tells("27: two ghosts, one of nobody", wrongly, k -> k.count(8) * 10 + k.count(12), 21);
     }
 
-    /** The call of a new object's 512th call is promised still. */
+    /** What is counted grows by each of its kind, and stays with each of another, also when there are many. */
+    private static void countsGrow() {
+        Keys k = Edge.after(ToldEdgesTest::seventeenDisputes);
+        Due.is("27: disputes", k.count(10), 17);
+        int[] credited = new int[2];
+        int[] rightly = new int[2];
+        int ghosts = 0;
+        int ofNobody = 0;
+        for (int i = 0; i < 17; i++) {
+            int who = i % 3;
+            int holder = i < 8 ? i / 4 : i % 3 == 0 ? Edge.NONE : 0;
+            Due.is("23: true holder of " + i, k.dispute(i, 4), holder);
+            k.settle(i, who);
+            if (who == 2) {
+                ghosts++;
+                ofNobody += holder == Edge.NONE ? 1 : 0;
+            } else {
+                credited[who]++;
+                rightly[who] += holder == who ? 1 : 0;
+            }
+            for (int typist = 0; typist < 2; typist++) {
+                Due.is("18: credited, " + i, k.typist(typist, 4), credited[typist]);
+                Due.is("18: rightly, " + i, k.typist(typist, 5), rightly[typist]);
+            }
+            Due.is("27: credited, " + i, k.count(7), credited[0] + credited[1]);
+            Due.is("27: rightly, " + i, k.count(11), rightly[0] + rightly[1]);
+            Due.is("27: ghosts, " + i, k.count(8), ghosts);
+            Due.is("27: ghosts without a true holder, " + i, k.count(12), ofNobody);
+            Due.is("27: open disputes, " + i, k.count(9), 16 - i);
+        }
+    }
+
+    /** Four of strokes of 0, four of strokes of 1, and three times one of 0, one of a ghost, and one of 0 again. */
+    private static void seventeenDisputes(Keys k) {
+        k.build(2, 3);
+        k.set(0, Edge.bits(2.0f));
+        for (int i = 0; i < 8; i++) {
+            Edge.strikeOfTwoRows(k, i / 4, 2, 4);
+        }
+        for (int i = 0; i < 3; i++) {
+            k.press(0, 0);
+            k.press(0, 3);
+            k.press(0, 4);
+            k.tick(1);
+            k.release(0, 4);
+            k.tick(1);
+            k.release(0, 0);
+            k.release(0, 3);
+            k.tick(2);
+        }
+    }
+
+    /** The 512th call of a new object is promised still. */
     private static void lastCall() {
         Keys.Way strokes = k -> {
             k.build(2, 2);
@@ -486,6 +538,7 @@ public final class ToldEdgesTest {
         verdicts();
         ghosts();
         counts();
+        countsGrow();
         lastCall();
         Due.tell();
     }
