@@ -480,6 +480,15 @@ public final class CreditEdgesTest {
         Edge.tells("9: ever, though all are settled", settled, k -> k.stroke(0, 3), 2);
         Edge.tells("27: none is open", settled, k -> k.count(9), 0);
         Edge.tells("27: 21 ghosts", settled, k -> k.count(8), 21);
+        int[] outer = {0, 19};
+        for (int dispute : outer) {
+            Edge.tells("23: open, of twenty", twenty, k -> k.dispute(dispute, 3), Edge.NONE);
+            Edge.act("10: settle, of twenty", twenty, k -> k.settle(dispute, 1), dispute % 3);
+            Keys.Way done = Whole.then(twenty, k -> k.settle(dispute, 1));
+            Edge.tells("23: settled, of twenty", done, k -> k.dispute(dispute, 3), 1);
+            Edge.tells("27: nineteen are open", done, k -> k.count(9), 19);
+            Edge.refused("10: NOT_POSSIBLE again, of twenty", done, k -> k.settle(dispute, 1), Edge.NOT_POSSIBLE);
+        }
         Keys.Way undone = Whole.then(twenty, Keys::undo);
         Edge.tells("14: the 20th is taken back", undone, k -> k.count(10), 19);
         Edge.tells("14: and comes again", Whole.then(undone, k -> k.tick(2)), k -> k.count(10), 20);
@@ -616,6 +625,35 @@ public final class CreditEdgesTest {
         }
     }
 
+    /** "if the shift of the typist was on as it was noted": of a dispute too, with who borrows as the sign is typed. */
+    private static void capitalsByHand() {
+        for (int i = 0; i < 16; i++) {
+            boolean isOn1 = (i & 1) != 0;
+            boolean isOnLater = (i & 2) != 0;
+            boolean borrows = (i & 4) != 0;
+            int typist = i >> 3;
+            Keys.Way way = k -> {
+                disputing(k);
+                k.setShift(1, 0);
+                k.setSign(2, 'h');
+                if (isOn1) {
+                    k.press(1, 0);
+                }
+                Edge.strikeOfTwoRows(k, 0, 2, 4);
+                k.release(1, 0);
+                if (isOnLater) {
+                    k.press(1, 0);
+                }
+                k.tick(2);
+                k.borrow(0, borrows);
+            };
+            Edge.tells("10: a dispute of the letter, case " + i, way, k -> k.dispute(0, 0), 2);
+            boolean isCapital = isOn1 && (typist == 1 || borrows);
+            Edge.tells("10: by hand, case " + i, Whole.then(way, k -> k.settle(0, typist)), k -> k.typed(typist, 0),
+                    isCapital ? 'H' : 'h');
+        }
+    }
+
     /** The first and the last letter, small and large, and a key without one. */
     private static void letters() {
         char[] signs = {'a', 'z', 'm'};
@@ -718,6 +756,7 @@ public final class CreditEdgesTest {
         settledWhenForgotten();
         settledLater();
         capitals();
+        capitalsByHand();
         letters();
         keysThatAreGone();
         signsOfCredited();

@@ -225,15 +225,7 @@ public final class HistoryEdgesTest {
     /** All of the state comes back by restore(), and nothing of it changes in the snapshot. */
     private static void snapshotIsWhole() {
         Keys.Way kept = Whole.then(HistoryEdgesTest::rich, Keys::keep);
-        Keys.Way[] laters = {Edge.NEW, HistoryEdgesTest::others, k -> {
-            k.undo();
-            k.undo();
-            k.undo();
-            k.undo();
-            k.release(0, 0);
-            k.release(1, 6);
-            others(k);
-        }, k -> {
+        Keys.Way[] laters = {Edge.NEW, HistoryEdgesTest::others, HistoryEdgesTest::anotherWay, k -> {
             others(k);
             k.restore();
             others(k);
@@ -246,7 +238,33 @@ public final class HistoryEdgesTest {
         for (int i = 0; i < laters.length; i++) {
             Keys.Way restored = Whole.then(Whole.then(kept, laters[i]), Keys::restore);
             Due.same("16: all is as it was, way " + i, Whole.state(restored), Whole.state(HistoryEdgesTest::rich));
+            for (int j = 0; j <= 2; j++) {
+                int who = j;
+                Keys.Way settled = Whole.then(restored, k -> k.settle(1, who));
+                Keys.Way due = Whole.then(HistoryEdgesTest::rich, k -> k.settle(1, who));
+                Due.same("16: and the dispute, way " + i, Whole.state(settled), Whole.state(due));
+            }
         }
+    }
+
+    /** Goes back before the second stroke, and makes others in its place: of other keys, hands and ticks, without a shift. */
+    private static void anotherWay(Keys k) {
+        for (int i = 0; i < 4; i++) {
+            k.undo();
+        }
+        k.press(1, 0);
+        k.release(1, 6);
+        k.tick(9);
+        for (int i = 0; i < 3; i++) {
+            k.press(0, 5);
+            k.tick(8);
+            k.release(0, 5);
+            k.tick(5);
+        }
+        k.settle(1, 0);
+        k.release(1, 0);
+        k.tick(4);
+        others(k);
     }
 
     /** The settings come back as what they do, not only as what is told of them. */

@@ -194,16 +194,44 @@ public final class KeyboardEdgesTest {
                 Due.is(size + "no other key", k.count(4), 1);
             }
         }
+        for (int first = 0; first < rows; first++) {
+            for (int second = first + 1; second < rows; second++) {
+                for (int missing = 0; missing < 4; missing++) {
+                    cornersOf(rows, columns, new int[] {first, second}, missing);
+                }
+            }
+        }
+    }
+
+    /** Three corners in two rows and the outer columns join the fourth one, which is a ghost; and no other key. */
+    private static void cornersOf(int rows, int columns, int[] outerRows, int missing) {
+        String size = rows + " x " + columns + ", rows " + outerRows[0] + " and " + outerRows[1] + ": ";
         Keys k = new RealKeys();
         k.build(rows, columns);
-        k.press(0, 0);
-        k.press(0, columns - 1);
-        k.press(0, (rows - 1) * columns);
-        for (int key = 0; key < rows * columns; key++) {
-            boolean isFirstOrLastRow = key / columns == 0 || key / columns == rows - 1;
-            boolean isFirstOrLastColumn = key % columns == 0 || key % columns == columns - 1;
-            Due.is(size + "corner " + key, k.key(key, 6), isFirstOrLastRow && isFirstOrLastColumn ? 1 : 0);
+        int[] corners = new int[4];
+        for (int i = 0; i < 4; i++) {
+            corners[i] = outerRows[i / 2] * columns + i % 2 * (columns - 1);
+            if (i != missing) {
+                k.press(0, corners[i]);
+            }
         }
+        for (int key = 0; key < rows * columns; key++) {
+            boolean isCorner = key == corners[0] || key == corners[1] || key == corners[2] || key == corners[3];
+            Due.is(size + "sensed, " + key, k.key(key, 6), isCorner ? 1 : 0);
+            Due.is(size + "ghosts by " + key, k.ghostsBy(key), isCorner && key != corners[missing] ? 101 : ghostsByApart(key, corners, columns));
+        }
+        k.tick(rows);
+        Due.is(size + "four are seen", k.count(4), 4);
+        Due.is(size + "doubtful in the second row, left", k.key(corners[2], 3), 1);
+        Due.is(size + "doubtful in the second row, right", k.key(corners[3], 3), 1);
+        Due.is(size + "no other is doubtful", k.count(5), 2);
+    }
+
+    /** A key in a row or a column of three corners would join that column to both rows, or that row to both columns. */
+    private static int ghostsByApart(int key, int[] corners, int columns) {
+        boolean isInRow = key / columns == corners[0] / columns || key / columns == corners[2] / columns;
+        boolean isInColumn = key % columns == 0 || key % columns == columns - 1;
+        return isInRow != isInColumn ? 99 : 100;
     }
 
     /** "A key has a sign (a letter a to z, or none; at first none)": every character that there is. */

@@ -435,8 +435,9 @@ public final class ToldEdgesTest {
         int[] rightly = new int[2];
         int ghosts = 0;
         int ofNobody = 0;
+        int[] whos = {0, 1, 2, 0, 1, 0, 2, 1, 2, 2, 0, 1, 2, 2, 2, 0, 2};
         for (int i = 0; i < 17; i++) {
-            int who = i % 3;
+            int who = whos[i];
             int holder = i < 8 ? i / 4 : i % 3 == 0 ? Edge.NONE : 0;
             Due.is("23: true holder of " + i, k.dispute(i, 4), holder);
             k.settle(i, who);
@@ -457,6 +458,7 @@ public final class ToldEdgesTest {
             Due.is("27: ghosts without a true holder, " + i, k.count(12), ofNobody);
             Due.is("27: open disputes, " + i, k.count(9), 16 - i);
         }
+        Due.is("27: two ghosts without a true holder", k.count(12), 2);
     }
 
     /** Four of strokes of 0, four of strokes of 1, and three times one of 0, one of a ghost, and one of 0 again. */
